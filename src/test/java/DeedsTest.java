@@ -7,6 +7,7 @@ public final class DeedsTest {
         blowing();
         undoing();
         undoingTwenty();
+        undoingTwentyKinds();
         undoneByHours();
         images();
         Check.end("DeedsTest");
@@ -146,6 +147,47 @@ public final class DeedsTest {
         }
         Check.due("no more", s.undo(), -1);
         Check.due("where it was behind five", s.child(0, 0), 5);
+    }
+
+    private static void undoingTwentyKinds() {
+        CloudSchool s = Check.of("cloud a 3 1 3 0;cloud b 1 3 3 0;child k 3 1 9;child l 2 2 0;wind 3;");
+        s.go(1);
+        int[] x = new int[26];
+        int[] y = new int[26];
+        int[] owner = new int[26];
+        int[] wind = new int[26];
+        int[] childX = new int[26];
+        for (int i = 0; i < 25; i++) {
+            x[i] = s.cloud(0, 0);
+            y[i] = s.cloud(0, 1);
+            owner[i] = s.cloud(1, 4);
+            wind[i] = s.count(6);
+            childX[i] = s.child(1, 0);
+            switch (i % 4) {
+                case 0:
+                    s.push(0, 1 + i / 4 % 4);
+                    break;
+                case 1:
+                    s.give(1, s.cloud(1, 4) == 1 ? -1 : 1);
+                    break;
+                case 2:
+                    s.stand(1, i % 6, i / 6 % 4);
+                    break;
+                default:
+                    s.blow(i / 4 % 4);
+                    break;
+            }
+            Check.due("done " + i, s.count(14), Math.min(20, i + 1));
+        }
+        for (int i = 24; i >= 5; i--) {
+            s.undo();
+            Check.due("x of a before " + i, s.cloud(0, 0), x[i]);
+            Check.due("y of a before " + i, s.cloud(0, 1), y[i]);
+            Check.due("b's child before " + i, s.cloud(1, 4), owner[i]);
+            Check.due("wind before " + i, s.count(6), wind[i]);
+            Check.due("l before " + i, s.child(1, 0), childX[i]);
+        }
+        Check.due("no more of all kinds", s.undo(), -1);
     }
 
     private static void undoneByHours() {

@@ -4,6 +4,8 @@ public final class FutureTest {
         ahead();
         could();
         station();
+        behindOthers();
+        restsOfBoth();
         lacksAndEnough();
         whose();
         swaps();
@@ -86,6 +88,48 @@ public final class FutureTest {
         Check.due("what -1", s.station(0, 1, -1), -1);
     }
 
+    /** What was so already is not counted among what is more. */
+    private static void behindOthers() {
+        CloudSchool s = Check.of("hill 1 1;cloud a 1 1 9 0;child k 1 1 0;child l 1 2 9;field f 1 1 9;law fall 1;");
+        s.go(3);
+        Check.due("marks so far", s.count(11), 3);
+        Check.due("marks more", s.ahead(2, 2), 2);
+        Check.due("rain more", s.ahead(2, 0), 2);
+        Check.due("chance of more than 2 in 2 hours", s.chance(9, 2, 0, 3), 0);
+        Check.due("plan of two hours", s.plan(0, 0, 2), 2);
+        Check.due("tried", s.tried(0, 0, 2), 2);
+        Check.due("rests: k stays, or has less", s.rests(0, 1), 5);
+        Check.due("the first one", s.rest(0, 1, 0), 0);
+        Check.due("the last one", s.rest(0, 1, 4), 4);
+    }
+
+    /** Each wants the other one elsewhere: joined, one of both has it all. */
+    private static void restsOfBoth() {
+        CloudSchool s = Check.of("hill 1 1;hill 3 1;cloud a 2 1 4 0;cloud b 2 2 5 0;child k 2 1 0;child l 2 2 0;field f 1 1 9;"
+            + "field g 3 1 9;field h 2 2 9;rain 5;law fall size-2;law grow 0;");
+        s.go(1);
+        Check.due("b rained 3 where it was", s.field(2, 3), 3);
+        Check.due("a is 4", s.cloud(0, 2), 4);
+        Check.due("b is 2", s.cloud(1, 2), 2);
+        Check.due("k joins b where it stays, else it goes to a hill", s.rests(0, 1), 9);
+        int[] due = {11, 12, 13, 14, 20, 31, 32, 33, 34, -2};
+        for (int i = 0; i < due.length; i++) {
+            Check.due("rest " + i, s.rest(0, 1, i), due[i]);
+        }
+        s = Check.of("hill 2 1;cloud a 1 1 6 0;cloud b 3 1 6 0;child k 1 1 0;child l 3 1 0;field f 2 1 9;field g 1 1 1;"
+            + "rain 7;law fall 2+2*(size>6);");
+        s.go(1);
+        Check.due("l: its cloud is joined if it comes", s.rests(1, 0), 5);
+        Check.due("k comes, l any: ten times the first one given", s.rest(1, 0, 0), 1);
+        Check.due("last", s.rest(1, 0, 4), 41);
+        s = Check.of("cloud a 1 1 3 0;cloud b 2 2 3 0;child k 1 1 0;child l 2 2 0;field f 2 1 9;field g 1 2 9;rain 5;law fall 2;");
+        s.go(1);
+        Check.due("only both in one cell rain, for k alone", s.rests(0, 1), 17);
+        Check.due("nothing, nothing", s.rest(0, 1, 0), 0);
+        Check.due("k east, l north", s.rest(0, 1, 6), 14);
+        Check.due("k south, l west", s.rest(0, 1, 10), 23);
+    }
+
     private static void lacksAndEnough() {
         CloudSchool s = Check.of("water 1 1;cloud a 1 1 3 1;rain 4;law fall 1;field f 1 1 2;field g 1 1 0;field h 0 0 1;field i 1 1 99;");
         Check.due("lacks", s.lacks(), 1 + 4 + 8);
@@ -135,6 +179,15 @@ public final class FutureTest {
         Check.due("k -1", s.swap(-1), -1);
         s.give(0, -1);
         Check.due("nobody's", s.swaps(), 0);
+        s.undo();
+        s.give(1, -1);
+        Check.due("a and c, b is nobody's", s.swap(0), 2);
+        s.undo();
+        s.stand(0, 2, 0);
+        Check.due("k: b is nearer than a, and c as far", s.swaps(), 0);
+        s.undo();
+        Check.due("l pushes a beyond the edge", s.push(1, 3), 0);
+        Check.due("what is lost isn't swapped", s.swaps(), 0);
         s.undo();
         s.stand(1, 2, 0);
         Check.due("l: b is nearer than a, c is as far", s.swaps(), 1);
@@ -234,8 +287,8 @@ public final class FutureTest {
     private static void planOfSeveral() {
         CloudSchool s = Check.of("hill 2 2;cloud a 1 1 9 0;child k 1 1 9;child l 5 0 0;field f 2 2 9;law fall 4;rain 20;wind 0;wind 1;");
         s.go(1);
-        Check.due("by the wind as it goes", s.plan(0, 0, 1), 4);
         Check.due("south, and the wind is east", s.step(0, 0, 1, 0), 2);
+        Check.due("by the wind as it goes", s.plan(0, 0, 1), 4);
         Check.due("another child has none", s.plan(1, 0, 2), 0);
         Check.due("its push", s.step(1, 0, 2, 1), 0);
         Check.due("two hours", s.plan(0, 0, 2), 8);

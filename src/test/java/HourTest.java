@@ -11,6 +11,7 @@ public final class HourTest {
         given();
         marked();
         lawValues();
+        lawsInOneText();
         lawBounds();
         lawErrors();
         going();
@@ -228,6 +229,16 @@ public final class HourTest {
         Check.due("<>", worth("2<>2"), 0);
         Check.due(">=", worth("2>=3"), 0);
         Check.due(">", worth("3>2"), 1);
+        Check.due("<= not", worth("3<=2"), 0);
+        Check.due("= not", worth("3=2"), 0);
+        Check.due("<> of others", worth("3<>2"), 1);
+        Check.due(">= of alike", worth("3>=3"), 1);
+        Check.due("> of alike", worth("3>3"), 0);
+        Check.due("> not", worth("2>3"), 0);
+        Check.due("and of 1 and 1", worth("1 and 1"), 1);
+        Check.due("and of 7 and 0", worth("7 and 0"), 0);
+        Check.due("or of 0 and 1", worth("0 or 1"), 1);
+        Check.due("or of 0 and 0", worth("0 or 0"), 0);
         Check.due("+ ahead of <", worth("1+1<2+1"), 1);
         Check.due("not of a comparison", worth("not 1<2"), 0);
         Check.due("not of a number", worth("not 5"), 0);
@@ -247,6 +258,14 @@ public final class HourTest {
         s.blow(3);
         s.go(2);
         Check.due("lost: no value", s.law(1, 0), Long.MIN_VALUE);
+    }
+
+    private static void lawsInOneText() {
+        CloudSchool s = Check.of("cloud a 1 1 3 0;law fall 1+2*3;law grow 0;law mark (size or 1)<2;");
+        s.go(1);
+        Check.due("fall", s.law(1, 0), 7);
+        Check.due("grow", s.law(0, 0), 0);
+        Check.due("mark", s.law(2, 0), 1);
     }
 
     private static void lawBounds() {

@@ -4,6 +4,7 @@ public final class NotesTest {
         noting();
         striking();
         knowing();
+        knowingInOtherOrder();
         sizesByRain();
         sizesByJoins();
         fromTheTextOn();
@@ -76,6 +77,20 @@ public final class NotesTest {
         Check.due("nothing changed", s.count(13), 4);
         Check.due("by 4", s.known(4), true);
         Check.due("by 4 again", s.known(4), true);
+    }
+
+    /** A note that isn't known doesn't count, whichever hours the known ones tell of. */
+    private static void knowingInOtherOrder() {
+        CloudSchool s = Check.of("cloud a 1 1 3 0;wind 1;");
+        s.note(3, 4, 1, true);
+        s.note(1, 0, 0, true);
+        Check.due("both", s.sizes(0), 0);
+        s.known(1);
+        Check.due("the first one", s.sizes(0), 1022);
+        s.known(0);
+        Check.due("none", s.sizes(0), 1022);
+        s.known(2);
+        Check.due("both again", s.sizes(0), 0);
     }
 
     private static void sizesByRain() {

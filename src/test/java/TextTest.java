@@ -235,6 +235,20 @@ public final class TextTest {
         school.go(1);
         Check.due("anew: rain is 6 again", school.field(0, 3), 0);
         Check.due("anew: no law", school.law(0, 0), Long.MIN_VALUE);
+        Check.due("a third text", Check.read(school, "cloud b 1 1 3 0;child k 1 1 9;field f 1 1 9;hill 1 1;law grow 2;"), 5);
+        school.go(2);
+        Check.due("third: the first one's water is no more", school.ground(0, 0), 0);
+        Check.due("third: got", school.field(0, 3), 2 + 2);
+        Check.due("third: whose", school.whose(0), 0);
+        Check.due("a fourth text", Check.read(school, "cloud b 1 1 3 0;child k 1 1 9;field f 1 1 9;"), 3);
+        Check.due("fourth: got", school.field(0, 3), 0);
+        Check.due("fourth: whose", school.whose(0), -2);
+        Check.due("fourth: marks", school.child(0, 3), 0);
+        school.go(1);
+        Check.due("fourth: ground", school.ground(1, 1), 0);
+        Check.due("fourth: no law", school.law(0, 0), Long.MIN_VALUE);
+        Check.due("a fifth text", Check.read(school, "water 1 1;law grow 2;rain 1;rain 2;"), -1);
+        Check.due("what was read of it is gone", Check.read(school, "hill 1 1;law grow 2;rain 1;cloud b 1 1 3 0;"), 4);
     }
 
     private static void names() {
