@@ -849,7 +849,8 @@ public final class CloudSchool {
                 takeNumber();
                 token = NUMBER;
             } else {
-                takeSign();
+                token = signToken(bytes[next], next + 1 < length ? bytes[next + 1] : 0);
+                next += token == LESS_OR_LIKE || token == UNLIKE || token == MORE_OR_LIKE ? 2 : 1;
             }
         }
 
@@ -889,24 +890,7 @@ public final class CloudSchool {
             }
         }
 
-        private void takeSign() {
-            int sign = bytes[next];
-            next++;
-            int behind = next < length ? bytes[next] : 0;
-            if (sign == '<' && behind == '=') {
-                token = LESS_OR_LIKE;
-            } else if (sign == '<' && behind == '>') {
-                token = UNLIKE;
-            } else if (sign == '>' && behind == '=') {
-                token = MORE_OR_LIKE;
-            } else {
-                token = singleSign(sign);
-                return;
-            }
-            next++;
-        }
-
-        private static int singleSign(int sign) {
+        private static int signToken(int sign, int behind) {
             switch (sign) {
                 case '+':
                     return PLUS;
@@ -917,11 +901,11 @@ public final class CloudSchool {
                 case '/':
                     return BY;
                 case '<':
-                    return LESS;
+                    return behind == '=' ? LESS_OR_LIKE : behind == '>' ? UNLIKE : LESS;
                 case '=':
                     return LIKE;
                 case '>':
-                    return MORE;
+                    return behind == '=' ? MORE_OR_LIKE : MORE;
                 case '(':
                     return OPEN;
                 case ')':
@@ -1454,6 +1438,9 @@ public final class CloudSchool {
 
         /** A law's value for a cloud now; ERROR without such a law, too. */
         long worthOf(int law, int cloud) {
+            if (!told.laws.isTold(law)) {
+                return ERROR;
+            }
             int child = owner[cloud];
             names[SIZE - SIZE] = size[cloud];
             names[GROUND - SIZE] = groundAt(x[cloud], y[cloud]);
@@ -1500,22 +1487,16 @@ public final class CloudSchool {
         }
 
         /** What a law says, held between 0 and so much; other, if it says nothing. */
-        private int bound(int law, int cloud, int most, int other) {
-            if (!told.laws.isTold(law)) {
-                return other;
-            }
-            long value = worthOf(law, cloud);
-            if (value == ERROR) {
-                return other;
-            }
-            return (int) Math.max(0, Math.min(most, value));
+        private static int bounded(long value, int most, int other) {
+            return value == ERROR ? other : (int) Math.max(0, Math.min(most, value));
         }
 
         private void growClouds() {
             for (int cloud = 0; cloud < told.clouds; cloud++) {
                 if (isUp(cloud)) {
                     int other = groundAt(x[cloud], y[cloud]) == WATER_GROUND ? 1 : 0;
-                    size[cloud] = Math.min(MOST_SIZE, size[cloud] + bound(GROW_LAW, cloud, MOST_MORE, other));
+                    int more = bounded(worthOf(GROW_LAW, cloud), MOST_MORE, other);
+                    size[cloud] = Math.min(MOST_SIZE, size[cloud] + more);
                 }
             }
         }
@@ -1540,7 +1521,7 @@ public final class CloudSchool {
         private void rainDown() {
             for (int cloud = 0; cloud < told.clouds; cloud++) {
                 if (isUp(cloud) && (size[cloud] >= told.rain || groundAt(x[cloud], y[cloud]) == HILL_GROUND)) {
-                    int fall = bound(FALL_LAW, cloud, size[cloud], Math.max(1, size[cloud] / 2));
+                    int fall = bounded(worthOf(FALL_LAW, cloud), size[cloud], Math.max(1, size[cloud] / 2));
                     wetFields(cloud, fall);
                     size[cloud] -= fall;
                     if (size[cloud] == 0) {
@@ -1585,7 +1566,7 @@ public final class CloudSchool {
             for (int child = 0; child < told.children; child++) {
                 for (int cloud = 0; cloud < told.clouds; cloud++) {
                     if (isUp(cloud) && owner[cloud] == child) {
-                        marks[child] += bound(MARK_LAW, cloud, MOST_MORE, canSee(child, cloud) ? 1 : 0);
+                        marks[child] += bounded(worthOf(MARK_LAW, cloud), MOST_MORE, canSee(child, cloud) ? 1 : 0);
                     }
                 }
             }
