@@ -14,6 +14,7 @@ public final class FaceTest {
         anyArguments("");
         anyArguments("water 0 0;hill 5 3;field a 1 1 5;field b 5 3 9;cloud a 0 0 9 0;cloud b 1 1 5 1;cloud c 1 2 1 0;"
             + "child a 1 1 1;child b 4 3 3;wind 2;wind 0;rain 3;most 1;law grow 1/(size-5);law fall size*size;law mark far-marks;");
+        anyArguments(full());
         Check.end("FaceTest");
     }
 
@@ -34,6 +35,19 @@ public final class FaceTest {
             }
         }
         Check.due("methods of the face", many, FACE.split(" ").length);
+    }
+
+    /** A text with as many of each kind as there may be. */
+    private static String full() {
+        StringBuilder text = new StringBuilder("most 2;rain 2;law mark size;");
+        for (int i = 0; i < 12; i++) {
+            char name = (char) ('a' + i);
+            text.append("wind ").append(i % 7 == 3 ? 1 : 0).append(';');
+            text.append(i < 5 ? "field " + name + " " + i + " 1 9;" : "");
+            text.append(i < 8 ? "cloud " + name + " " + i % 6 + " " + i % 4 + " 5 " + i / 4 + ";" : "");
+            text.append(i < 6 ? "child " + name + " " + i + " 2 2;" : "");
+        }
+        return text.toString();
     }
 
     private static void anyArguments(String text) throws Exception {

@@ -80,6 +80,8 @@ public final class FutureTest {
         Check.due("sight 9: how many", s.station(2, 60, 1), 3 * 60 - 1);
         s.stand(0, 5, 3);
         Check.due("wherever it is", s.station(0, 1, 0), 0);
+        CloudSchool one = Check.of("cloud a 2 0 3 0;child k 5 3 1;");
+        Check.due("the first one to see x 2", one.station(0, 1, 0), 1);
         Check.due("0 hours", s.station(0, 0, 0), -1);
         Check.due("61 hours", s.station(0, 61, 0), -1);
         Check.due("no such child", s.station(3, 1, 0), -1);
@@ -161,6 +163,9 @@ public final class FutureTest {
         s.go(1);
         Check.due("the last one rained 1 more by l", s.whose(0), 1);
         Check.due("what k's own rained", s.child(0, 5), 4);
+        CloudSchool one = Check.of("hill 1 1;cloud a 1 1 9 0;child k 1 1 0;field f 1 1 9;law fall 1;");
+        one.go(2);
+        Check.due("1 is most, too", one.whose(0), 0);
         Check.due("no such field", s.whose(3), -1);
         Check.due("nor -1", s.whose(-1), -1);
     }

@@ -31,6 +31,7 @@ public final class NotesTest {
             Check.due("note " + i, i % 2 == 0 ? s.note(1, 1, 1, true) : s.out(i - 1), i);
         }
         Check.due("24 notes", s.count(12), 24);
+        Check.due("sizes by 24", s.sizes(0), 1022);
         Check.due("no 25th", s.note(1, 1, 1, true), -1);
         Check.due("no 25th that strikes", s.out(0), -1);
     }

@@ -4,6 +4,7 @@ public final class TextTest {
         newObject();
         feeding();
         reading();
+        cutShort();
         lines();
         wrongTokens();
         tooMuch();
@@ -81,6 +82,25 @@ public final class TextTest {
         Check.due("fault(1) without", school.fault(1), -1);
     }
 
+    /** What lies on the tape behind the first n bytes is no part of the text. */
+    private static void cutShort() {
+        cutAt("rainx 3;", 4, 4);
+        cutAt("rain 12;", 6, 6);
+        cutAt("law grow 1<=2;", 11, 11);
+        cutAt("law grow 1<>2;", 11, 11);
+        CloudSchool school = new CloudSchool();
+        Check.feedAll(school, "rain 3;rain 3;");
+        Check.due("the first 7 bytes", school.text(7), 1);
+    }
+
+    private static void cutAt(String tape, int n, int place) {
+        CloudSchool school = new CloudSchool();
+        Check.feedAll(school, tape);
+        Check.due(n + " bytes of '" + tape + "'", school.text(n), -1);
+        Check.due("fault(0) of it", school.fault(0), 1);
+        Check.due("fault(1) of it", school.fault(1), place);
+    }
+
     private static void lines() {
         fine("", 0);
         fine("\n  \n", 0);
@@ -113,6 +133,7 @@ public final class TextTest {
         faulty("child or 1 1 1;", 1, 6);
         faulty("cloud abcdefg 1 1 1 1;", 1, 6);
         faulty("law hill 1;", 1, 4);
+        faulty("law ;", 1, 4);
         faulty("law grow;", 1, 8);
         faulty("law grow ", 1, 9);
         faulty("law grow 1 2;", 1, 11);
@@ -120,6 +141,7 @@ public final class TextTest {
         faulty("law grow -1;", 1, 9);
         faulty("law grow 1 < 2 < 3;", 1, 15);
         faulty("law grow 1 < 2 + 3 = 3;", 1, 19);
+        faulty("law grow 1<=", 1, 12);
         faulty("law grow 1 < = 2;", 1, 13);
         faulty("law grow 1 >< 2;", 1, 12);
         faulty("law grow 1 <>= 2;", 1, 13);
@@ -195,6 +217,9 @@ public final class TextTest {
         faulty("law grow " + "not ".repeat(64) + "7;", 2, 9 + 4 * 64);
         school = Check.of("law grow " + "not ".repeat(63) + "7;");
         Check.due("63 times not", school.count(4), 64);
+        school = Check.of("cloud a 0 0 1 0;law grow ((((((((" + "not ".repeat(63) + "7))))))));");
+        school.go(1);
+        Check.due("63 times not behind eight (", school.law(0, 0), 0);
         faulty("law grow " + "not ".repeat(65) + "7;", 2, 9 + 4 * 64);
     }
 
