@@ -4,14 +4,28 @@ import java.util.NoSuchElementException;
 /** What the project's tests share: how a text is fed, and how an answer is looked at. */
 final class Check {
     private static int wrong = 0;
+    private static String about = "";
 
     private Check() {
+    }
+
+    /** The promise or the term whose sentence is tested from here on; it is told with each wrong answer. */
+    static void about(String promiseOrTerm) {
+        about = promiseOrTerm + ": ";
     }
 
     static void due(String what, long got, long want) {
         if (got != want) {
             wrong++;
-            System.out.println(what + " answered " + got + ", due is " + want);
+            System.out.println(about + what + " answered " + got + ", due is " + want);
+        }
+    }
+
+    /** Texts that must be alike, such as two looks at schools. */
+    static void alike(String what, String got, String want) {
+        if (!got.equals(want)) {
+            wrong++;
+            System.out.println(about + what + " is\n  " + got + "\ndue is\n  " + want);
         }
     }
 
@@ -52,6 +66,22 @@ final class Check {
             due("the text '" + text + "' has a fault at " + school.fault(1) + ":", school.fault(0), 0);
         }
         return school;
+    }
+
+    /** That a text has a fault of that kind at that place. */
+    static void faulty(String text, int kind, int place) {
+        CloudSchool school = new CloudSchool();
+        due("text '" + text + "'", read(school, text), -1);
+        due("fault(0) of '" + text + "'", school.fault(0), kind);
+        due("fault(1) of '" + text + "'", school.fault(1), place);
+    }
+
+    /** That a text has no fault and so many lines. */
+    static void fine(String text, int lines) {
+        CloudSchool school = new CloudSchool();
+        due("text '" + text + "'", read(school, text), lines);
+        due("fault(0) of '" + text + "'", school.fault(0), 0);
+        due("fault(1) of '" + text + "'", school.fault(1), -1);
     }
 
     /** A name's letters as named() wants them. */

@@ -17,21 +17,6 @@ public final class TextTest {
         Check.end("TextTest");
     }
 
-    /** That a text has a fault of that kind at that place. */
-    private static void faulty(String text, int kind, int place) {
-        CloudSchool school = new CloudSchool();
-        Check.due("text '" + text + "'", Check.read(school, text), -1);
-        Check.due("fault(0) of '" + text + "'", school.fault(0), kind);
-        Check.due("fault(1) of '" + text + "'", school.fault(1), place);
-    }
-
-    private static void fine(String text, int lines) {
-        CloudSchool school = new CloudSchool();
-        Check.due("text '" + text + "'", Check.read(school, text), lines);
-        Check.due("fault(0) of '" + text + "'", school.fault(0), 0);
-        Check.due("fault(1) of '" + text + "'", school.fault(1), -1);
-    }
-
     private static void newObject() {
         CloudSchool school = new CloudSchool();
         int[] counts = {0, 0, 0, 0, 0, 0, 0, 0, 0, 0, 0, 0, 0, 0, 0};
@@ -102,107 +87,107 @@ public final class TextTest {
     }
 
     private static void lines() {
-        fine("", 0);
-        fine("\n  \n", 0);
-        fine("water 0 0;hill 5 3;field a 5 3 99;cloud a 5 3 9 99;child a 5 3 9;wind 4;rain 20;most 9;seed 99999;", 9);
-        fine("water 1 0;water 0 1;field a 0 0 0;cloud b 0 0 1 0;child c 0 0 0;wind 0;rain 1;most 1;seed 0;", 9);
-        fine("\n water\n1\n0 ; rain3;", 2);
-        fine("rain 000000000000000000003;", 1);
-        fine("field a 0 0 1;field b 0 0 1;field c 0 0 1;field d 0 0 1;field e 0 0 1;", 5);
-        fine("field a 0 0 1;cloud a 0 0 1 0;child a 0 0 1;", 3);
-        fine("child abcdef 0 0 0;child abcde 0 0 0;child waters 0 0 0;", 3);
-        fine("law grow 1;law fall size;law mark(0);", 3);
+        Check.fine("", 0);
+        Check.fine("\n  \n", 0);
+        Check.fine("water 0 0;hill 5 3;field a 5 3 99;cloud a 5 3 9 99;child a 5 3 9;wind 4;rain 20;most 9;seed 99999;", 9);
+        Check.fine("water 1 0;water 0 1;field a 0 0 0;cloud b 0 0 1 0;child c 0 0 0;wind 0;rain 1;most 1;seed 0;", 9);
+        Check.fine("\n water\n1\n0 ; rain3;", 2);
+        Check.fine("rain 000000000000000000003;", 1);
+        Check.fine("field a 0 0 1;field b 0 0 1;field c 0 0 1;field d 0 0 1;field e 0 0 1;", 5);
+        Check.fine("field a 0 0 1;cloud a 0 0 1 0;child a 0 0 1;", 3);
+        Check.fine("child abcdef 0 0 0;child abcde 0 0 0;child waters 0 0 0;", 3);
+        Check.fine("law grow 1;law fall size;law mark(0);", 3);
     }
 
     private static void wrongTokens() {
-        faulty(";", 1, 0);
-        faulty("water", 1, 5);
-        faulty("water 1 1", 1, 9);
-        faulty("water 1 1  ", 1, 11);
-        faulty("water 1 1 1;", 1, 10);
-        faulty("water 1;", 1, 7);
-        faulty("waters 1 1;", 1, 0);
-        faulty("  grow;", 1, 2);
-        faulty("Water 1 1;", 1, 0);
-        faulty("water\t1 1;", 1, 5);
-        faulty("water\r1 1;", 1, 5);
-        faulty("water -1 1;", 1, 6);
-        faulty("field 1 1 1;", 1, 6);
-        faulty("field water 1 1 1;", 1, 6);
-        faulty("field hour 1 1 1;", 1, 6);
-        faulty("child or 1 1 1;", 1, 6);
-        faulty("cloud abcdefg 1 1 1 1;", 1, 6);
-        faulty("law hill 1;", 1, 4);
-        faulty("law ;", 1, 4);
-        faulty("law grow;", 1, 8);
-        faulty("law grow ", 1, 9);
-        faulty("law grow 1 2;", 1, 11);
-        faulty("law grow 1 +;", 1, 12);
-        faulty("law grow -1;", 1, 9);
-        faulty("law grow 1 < 2 < 3;", 1, 15);
-        faulty("law grow 1 < 2 + 3 = 3;", 1, 19);
-        faulty("law grow 1<=", 1, 12);
-        faulty("law grow 1 < = 2;", 1, 13);
-        faulty("law grow 1 >< 2;", 1, 12);
-        faulty("law grow 1 <>= 2;", 1, 13);
-        faulty("law grow 1 + not 2;", 1, 13);
-        faulty("law grow 1 < not 2;", 1, 13);
-        faulty("law grow 1 not 2;", 1, 11);
-        faulty("law grow (1;", 1, 11);
-        faulty("law grow (1 + 2", 1, 15);
-        faulty("law grow 1);", 1, 10);
-        faulty("law grow ();", 1, 10);
-        faulty("law grow 1 (2);", 1, 11);
-        faulty("law grow puff;", 1, 9);
-        faulty("law grow rain;", 1, 9);
-        faulty("law grow 1 and;", 1, 14);
-        faulty("law grow 1 & 2;", 1, 11);
+        Check.faulty(";", 1, 0);
+        Check.faulty("water", 1, 5);
+        Check.faulty("water 1 1", 1, 9);
+        Check.faulty("water 1 1  ", 1, 11);
+        Check.faulty("water 1 1 1;", 1, 10);
+        Check.faulty("water 1;", 1, 7);
+        Check.faulty("waters 1 1;", 1, 0);
+        Check.faulty("  grow;", 1, 2);
+        Check.faulty("Water 1 1;", 1, 0);
+        Check.faulty("water\t1 1;", 1, 5);
+        Check.faulty("water\r1 1;", 1, 5);
+        Check.faulty("water -1 1;", 1, 6);
+        Check.faulty("field 1 1 1;", 1, 6);
+        Check.faulty("field water 1 1 1;", 1, 6);
+        Check.faulty("field hour 1 1 1;", 1, 6);
+        Check.faulty("child or 1 1 1;", 1, 6);
+        Check.faulty("cloud abcdefg 1 1 1 1;", 1, 6);
+        Check.faulty("law hill 1;", 1, 4);
+        Check.faulty("law ;", 1, 4);
+        Check.faulty("law grow;", 1, 8);
+        Check.faulty("law grow ", 1, 9);
+        Check.faulty("law grow 1 2;", 1, 11);
+        Check.faulty("law grow 1 +;", 1, 12);
+        Check.faulty("law grow -1;", 1, 9);
+        Check.faulty("law grow 1 < 2 < 3;", 1, 15);
+        Check.faulty("law grow 1 < 2 + 3 = 3;", 1, 19);
+        Check.faulty("law grow 1<=", 1, 12);
+        Check.faulty("law grow 1 < = 2;", 1, 13);
+        Check.faulty("law grow 1 >< 2;", 1, 12);
+        Check.faulty("law grow 1 <>= 2;", 1, 13);
+        Check.faulty("law grow 1 + not 2;", 1, 13);
+        Check.faulty("law grow 1 < not 2;", 1, 13);
+        Check.faulty("law grow 1 not 2;", 1, 11);
+        Check.faulty("law grow (1;", 1, 11);
+        Check.faulty("law grow (1 + 2", 1, 15);
+        Check.faulty("law grow 1);", 1, 10);
+        Check.faulty("law grow ();", 1, 10);
+        Check.faulty("law grow 1 (2);", 1, 11);
+        Check.faulty("law grow puff;", 1, 9);
+        Check.faulty("law grow rain;", 1, 9);
+        Check.faulty("law grow 1 and;", 1, 14);
+        Check.faulty("law grow 1 & 2;", 1, 11);
     }
 
     private static void tooMuch() {
-        faulty("water 6 0;", 2, 6);
-        faulty("water 0 4;", 2, 8);
-        faulty("hill 99999999999999999999 0;", 2, 5);
-        faulty("field a 0 0 100;", 2, 12);
-        faulty("cloud a 0 0 0 0;", 2, 12);
-        faulty("cloud a 0 0 10 0;", 2, 12);
-        faulty("cloud a 0 0 1 100;", 2, 14);
-        faulty("child a 0 0 10;", 2, 12);
-        faulty("wind 5;", 2, 5);
-        faulty("rain 0;", 2, 5);
-        faulty("rain 21;", 2, 5);
-        faulty("most 0;", 2, 5);
-        faulty("most 10;", 2, 5);
-        faulty("seed 100000;", 2, 5);
-        faulty("law grow 10000;", 2, 9);
-        faulty("field a 0 0 1;field b 0 0 1;field c 0 0 1;field d 0 0 1;field e 0 0 1;field f 0 0 1;", 2, 70);
-        faulty("cloud a 0 0 1 0;cloud b 0 0 1 0;cloud c 0 0 1 0;cloud d 0 0 1 0;cloud e 0 0 1 0;cloud f 0 0 1 0;"
+        Check.faulty("water 6 0;", 2, 6);
+        Check.faulty("water 0 4;", 2, 8);
+        Check.faulty("hill 99999999999999999999 0;", 2, 5);
+        Check.faulty("field a 0 0 100;", 2, 12);
+        Check.faulty("cloud a 0 0 0 0;", 2, 12);
+        Check.faulty("cloud a 0 0 10 0;", 2, 12);
+        Check.faulty("cloud a 0 0 1 100;", 2, 14);
+        Check.faulty("child a 0 0 10;", 2, 12);
+        Check.faulty("wind 5;", 2, 5);
+        Check.faulty("rain 0;", 2, 5);
+        Check.faulty("rain 21;", 2, 5);
+        Check.faulty("most 0;", 2, 5);
+        Check.faulty("most 10;", 2, 5);
+        Check.faulty("seed 100000;", 2, 5);
+        Check.faulty("law grow 10000;", 2, 9);
+        Check.faulty("field a 0 0 1;field b 0 0 1;field c 0 0 1;field d 0 0 1;field e 0 0 1;field f 0 0 1;", 2, 70);
+        Check.faulty("cloud a 0 0 1 0;cloud b 0 0 1 0;cloud c 0 0 1 0;cloud d 0 0 1 0;cloud e 0 0 1 0;cloud f 0 0 1 0;"
             + "cloud g 0 0 1 0;cloud h 0 0 1 0;cloud", 2, 128);
-        faulty("child a 0 0 1;child b 0 0 1;child c 0 0 1;child d 0 0 1;child e 0 0 1;child f 0 0 1;child 7", 2, 84);
-        faulty("wind 0;".repeat(13), 2, 84);
-        faulty("law grow (((((((((1)))))))));", 2, 17);
-        fine("law grow ((((((((1))))))))+((((((((1))))))));", 1);
+        Check.faulty("child a 0 0 1;child b 0 0 1;child c 0 0 1;child d 0 0 1;child e 0 0 1;child f 0 0 1;child 7", 2, 84);
+        Check.faulty("wind 0;".repeat(13), 2, 84);
+        Check.faulty("law grow (((((((((1)))))))));", 2, 17);
+        Check.fine("law grow ((((((((1))))))))+((((((((1))))))));", 1);
     }
 
     private static void toldAgain() {
-        faulty("water 1 2;hill 1 2;", 3, 17);
-        faulty("hill 1 2;hill 1 2;", 3, 16);
-        faulty("field a 0 0 1;field a 1 1 1;", 3, 20);
-        faulty("cloud ab 0 0 1 0;cloud ab 1 1 1 0;", 3, 23);
-        faulty("child k 0 0 1;child k 1 1 1;", 3, 20);
-        faulty("rain 3;rain 3;", 3, 7);
-        faulty("most 3; most 3;", 3, 8);
-        faulty("seed 3;seed 3;", 3, 7);
-        faulty("law mark 1;law mark 1;", 3, 15);
-        faulty("law mark 1;law grow 1;law fall 1;law fall 1;", 3, 37);
+        Check.faulty("water 1 2;hill 1 2;", 3, 17);
+        Check.faulty("hill 1 2;hill 1 2;", 3, 16);
+        Check.faulty("field a 0 0 1;field a 1 1 1;", 3, 20);
+        Check.faulty("cloud ab 0 0 1 0;cloud ab 1 1 1 0;", 3, 23);
+        Check.faulty("child k 0 0 1;child k 1 1 1;", 3, 20);
+        Check.faulty("rain 3;rain 3;", 3, 7);
+        Check.faulty("most 3; most 3;", 3, 8);
+        Check.faulty("seed 3;seed 3;", 3, 7);
+        Check.faulty("law mark 1;law mark 1;", 3, 15);
+        Check.faulty("law mark 1;law grow 1;law fall 1;law fall 1;", 3, 37);
     }
 
     private static void firstFault() {
-        faulty("rain 99;water $", 2, 5);
-        faulty("rain 3;rain 99;", 3, 7);
-        faulty("water 1 1;water 1 9;", 2, 18);
-        faulty("law grow 10000 10000;", 2, 9);
-        faulty("field f 9 9 999", 2, 8);
+        Check.faulty("rain 99;water $", 2, 5);
+        Check.faulty("rain 3;rain 99;", 3, 7);
+        Check.faulty("water 1 1;water 1 9;", 2, 18);
+        Check.faulty("law grow 10000 10000;", 2, 9);
+        Check.faulty("field f 9 9 999", 2, 8);
     }
 
     private static void knots() {
@@ -211,16 +196,16 @@ public final class TextTest {
         String most = "law grow 0" + "+1".repeat(31) + ";";
         school = Check.of(most + "law fall 1;");
         Check.due("64 knots", school.count(4), 64);
-        faulty(most + "law fall 12 + 3;", 2, most.length() + 12);
-        faulty(most + "law fall not 3;", 2, most.length() + 13);
-        faulty(most + "law fall not )", 1, most.length() + 13);
-        faulty("law grow " + "not ".repeat(64) + "7;", 2, 9 + 4 * 64);
+        Check.faulty(most + "law fall 12 + 3;", 2, most.length() + 12);
+        Check.faulty(most + "law fall not 3;", 2, most.length() + 13);
+        Check.faulty(most + "law fall not )", 1, most.length() + 13);
+        Check.faulty("law grow " + "not ".repeat(64) + "7;", 2, 9 + 4 * 64);
         school = Check.of("law grow " + "not ".repeat(63) + "7;");
         Check.due("63 times not", school.count(4), 64);
         school = Check.of("cloud a 0 0 1 0;law grow ((((((((" + "not ".repeat(63) + "7))))))));");
         school.go(1);
         Check.due("63 times not behind eight (", school.law(0, 0), 0);
-        faulty("law grow " + "not ".repeat(65) + "7;", 2, 9 + 4 * 64);
+        Check.faulty("law grow " + "not ".repeat(65) + "7;", 2, 9 + 4 * 64);
     }
 
     private static void allStaysWithFault() {
