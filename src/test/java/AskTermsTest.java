@@ -28,6 +28,7 @@ public final class AskTermsTest {
         chanceBySeeds();
         triedOtherwise();
         triedInSixtyHours();
+        triedLeavesNothing();
         twentyUndone();
         undoneUntilAnHour();
         imageButNotes();
@@ -362,6 +363,18 @@ public final class AskTermsTest {
         Check.due("first", s.rest(0, 1, 0), 13);
         Check.due("second", s.rest(0, 1, 1), 33);
         Check.due("no third", s.rest(0, 1, 2), -2);
+        CloudSchool joining = Check.of("hill 3 1;cloud a 2 1 9 0;cloud b 3 1 8 0;child k 2 1 0;child l 3 1 0;field f 2 1 9;field g 3 1 9;"
+            + "rain 7;law fall 2;");
+        joining.go(1);
+        Check.due("k has 2 by 0 and by 1; l has 2 by 0, but nothing if k comes", joining.rests(0, 1), 6);
+        int[] pairs = {0, 10, 11, 12, 13, 14, -2};
+        for (int k = 0; k < pairs.length; k++) {
+            Check.due("joining: rest " + k, joining.rest(0, 1, k), pairs[k]);
+        }
+        int[] turned = {0, 1, 11, 21, 31, 41, -2};
+        for (int k = 0; k < turned.length; k++) {
+            Check.due("joining, turned round: rest " + k, joining.rest(1, 0, k), turned[k]);
+        }
         Check.due("l first", s.rest(1, 0, 0), 31);
         Check.due("l first, second", s.rest(1, 0, 1), 33);
     }
@@ -531,6 +544,72 @@ public final class AskTermsTest {
         Check.due("60 hours without a", s.tried(2, 0, 60), 0);
         s.go(60);
         Check.due("what rained ahead is not counted", s.tried(0, 0, 0), 0);
+    }
+
+    /** What is asked behind a sky tried otherwise is of the sky as it goes. */
+    private static void triedLeavesNothing() {
+        Check.about("TRIED: what is asked then is as it goes");
+        String text = "hill 3 1;water 0 0;cloud a 2 1 5 0;cloud b 2 1 4 0;cloud c 1 1 6 0;child k 2 1 9;child l 1 1 1;field f 3 1 20;field g 2 1 9;"
+            + "wind 1;wind 0;wind 3;rain 6;law fall 1+ground;law grow ground=1;";
+        for (int what = 0; what <= 5; what++) {
+            CloudSchool plain = Check.of(text);
+            CloudSchool s = Check.of(text);
+            for (int hour = 0; hour < 2; hour++) {
+                plain.go(1);
+                s.go(1);
+                s.tried(what, 0, 9);
+                Check.alike("hour " + hour + " behind tried(" + what + ")", asked(s, what), asked(plain, -1));
+            }
+        }
+    }
+
+    private static String asked(CloudSchool s, int what) {
+        StringBuilder all = new StringBuilder();
+        if (s.count(12) == 0) {
+            s.note(1, 3, 1, true);
+            s.note(2, 3, 1, true);
+            s.note(3, 2, 1, true);
+        }
+        int[] answers = new int[14];
+        for (int i = 0; i < answers.length; i++) {
+            if (what >= 0) {
+                s.tried(what, 0, 9);
+            }
+            answers[i] = asked(s, i, 0);
+            all.append(answers[i]).append(' ');
+        }
+        return all.toString();
+    }
+
+    private static int asked(CloudSchool s, int i, int field) {
+        switch (i) {
+            case 0:
+            case 1:
+            case 2:
+                return s.sizes(i);
+            case 3:
+                return s.station(0, 5, 0);
+            case 4:
+                return s.station(1, 5, 1);
+            case 5:
+                return s.enough(field);
+            case 6:
+                return s.likely(field, 3, 0);
+            case 7:
+                return s.plan(0, field, 3);
+            case 8:
+                return s.step(0, field, 3, 1);
+            case 9:
+                return s.rests(0, 1);
+            case 10:
+                return s.rest(0, 1, 1);
+            case 11:
+                return s.chance(3, 6, field, 2);
+            case 12:
+                return s.ahead(5, 0);
+            default:
+                return s.tried(0, 0, 5);
+        }
     }
 
     private static void twentyUndone() {

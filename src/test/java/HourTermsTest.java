@@ -474,6 +474,11 @@ public final class HourTermsTest {
         Check.due(e, worth(e), Long.MIN_VALUE);
     }
 
+    /** 2 to the k, for products that a long would wrap round to 0. */
+    private static String power(int k) {
+        return "(4096*4096*" + (k <= 36 ? "" + (1 << k - 24) : "4096*" + (1 << k - 36)) + ")";
+    }
+
     private static void valuesAtTheBound() {
         Check.about("VALUES: above 10 to the 12 or below 0 by more than that");
         String million = "1000*1000";
@@ -498,6 +503,11 @@ public final class HourTermsTest {
         error("(4096*4096*4096)*(4096*4096*4096)");
         error("(4096*4096*4096)*(4096*4096*8)");
         error("(" + most + "+1)*0");
+        for (int k = 25; k <= 39; k++) {
+            error(power(k) + "*" + power(64 - k));
+            error("(0-" + power(k) + ")*" + power(64 - k));
+            error(power(k) + "*(0-" + power(64 - k) + ")");
+        }
         Check.due("times 0", worth("0*" + most), 0);
         Check.due("0 times", worth(most + "*0"), 0);
         Check.due("times 1", worth(most + "*1"), 1000000000000L);

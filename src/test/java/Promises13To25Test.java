@@ -79,6 +79,14 @@ public final class Promises13To25Test {
         }
         s = Check.of("cloud a 1 1 3 1;child k 1 1 9;");
         Check.due("to come", s.push(0, 1), -2);
+        s = Check.of("cloud a 0 0 1 0;cloud b 1 0 1 0;cloud c 2 0 1 0;cloud d 3 0 1 0;cloud e 4 0 1 0;cloud f 5 0 1 0;cloud g 0 1 1 0;"
+            + "cloud h 1 1 1 0;child k 0 0 9;child l 5 3 0;");
+        s.go(1);
+        Check.due("none of eight", s.push(1, 1), -2);
+        for (int cloud = 0; cloud < 7; cloud++) {
+            s.give(cloud, 1);
+        }
+        Check.due("the eighth of eight", s.push(0, 1), 7);
     }
 
     private static void promise14Give() {

@@ -82,6 +82,8 @@ public final class Promises1To12Test {
         Check.due("undo()", s.undo(), -1);
         Check.due("back()", s.back(), -1);
         Check.due("note(1, 0, 0, true)", s.note(1, 0, 0, true), 0);
+        Check.due("blow(-1): it is so", s.blow(-1), false);
+        Check.due("blow(0): not by call as yet", s.blow(0), true);
         Check.due("blow(4)", s.blow(4), true);
         Check.due("its wind", s.count(6), 4);
         Check.due("go(99)", s.go(99), 99);
@@ -201,6 +203,18 @@ public final class Promises1To12Test {
         Check.due("no marks", s.child(0, 3), 0);
         Check.due("rain and laws are forgotten", Check.read(s, "cloud a 1 1 6 0;field f 1 1 9;") + s.go(1), 3);
         Check.due("6 rains again", s.field(0, 3), 3);
+        for (int i = 0; i < 3; i++) {
+            Check.read(s, "cloud a 1 1 6 0;cloud b 2 2 6 0;field f 1 1 9;child k 1 1 9;rain 20;most 1;");
+            s.go(1);
+            Check.due("rain 20", s.field(0, 3), 0);
+            Check.due("most 1", s.child(0, 4), 1);
+        }
+        for (int i = 0; i < 3; i++) {
+            Check.read(s, "cloud a 1 1 6 0;cloud b 2 2 6 0;field f 1 1 9;child k 1 1 9;");
+            s.go(1);
+            Check.due("rain is 6 again", s.field(0, 3), 3);
+            Check.due("most is 9 again", s.child(0, 4), 2);
+        }
         s = Look.rich();
         Check.due("text(0)", s.text(0), 0);
         for (int what = 0; what <= 14; what++) {
@@ -324,6 +338,7 @@ public final class Promises1To12Test {
         for (int what : new int[] {-1, 6, MIN, MAX}) {
             Check.due("child(0, " + what + ")", s.child(0, what), -1);
         }
+        Check.due("marks of six in sum", s.count(11), 0);
         Check.due("in a school of three", Look.rich().child(3, 0), -1);
         s = Look.rich();
         int[] k = {1, 1, 1, 3, 1, 0};
@@ -404,6 +419,10 @@ public final class Promises1To12Test {
         s.give(1, -1);
         s.push(0, 1);
         Check.due("two in one cell until the hour goes by", s.in(5, 3), 1 + 4);
+        s = Check.of(FULL + "rain 20;");
+        s.go(1);
+        Check.due("the eighth of eight", s.in(5, 3), 128);
+        Check.due("none of eight", s.in(4, 3), 0);
     }
 
     private static void promise12Law() {

@@ -31,6 +31,7 @@ public final class TextTermsTest {
         notAheadOfComparisons();
         nineOpen();
         knotsOfAll();
+        knotsOfEachText();
         faultAtTheLength();
         firstFaultAlongTheText();
         leastFaultOfOnePlace();
@@ -535,6 +536,12 @@ public final class TextTermsTest {
         Check.faulty("law grow " + "not ".repeat(64) + "1;", 2, 9 + 4 * 64);
         Check.faulty("law grow " + "not ".repeat(65) + "1;", 2, 9 + 4 * 64);
         Check.fine("law grow ((((((((" + "not ".repeat(63) + "1))))))));", 1);
+        String all = "law grow " + "not ".repeat(64) + "((((((((";
+        Check.faulty(all + "(1", 2, all.length());
+        Check.faulty(all + "not 1", 2, all.length());
+        Check.faulty(all + "1", 2, all.length());
+        Check.faulty(all + "+", 1, all.length());
+        Check.faulty(all, 1, all.length());
         s = Check.of("law grow 1;");
         Check.due("a number is one", s.count(4), 1);
         Check.due("brackets are none", Check.of("law grow ((1)+(2));").count(4), 3);
@@ -542,6 +549,30 @@ public final class TextTermsTest {
         Check.due("of all laws", Check.of("law grow 1+1;law fall size;law mark 2*3;").count(4), 7);
         Check.due("a new text counts anew", Check.read(s, FULL + ";"), 1);
         Check.due("64 then", s.count(4), 64);
+    }
+
+    /** What an earlier text told, or a fault left half read, does not count in a later one. */
+    private static void knotsOfEachText() {
+        Check.about("FAULT 2: a 65th KNOT of all E of one TEXT");
+        String sum = "law fall 0" + "+1".repeat(31) + ";law grow 7;cloud a 1 1 3 0;rain 20;";
+        CloudSchool s = new CloudSchool();
+        for (int i = 0; i < 4; i++) {
+            Check.due("text " + i, Check.read(s, sum), 4);
+            Check.due("64 knots", s.count(4), 64);
+            s.go(1);
+            Check.due("fall", s.law(1, 0), 31);
+            Check.due("grow", s.law(0, 0), 7);
+            Check.due("mark", s.law(2, 0), Long.MIN_VALUE);
+        }
+        String[] halves = {"law grow 1+2*(3-(4 and $", "law grow ((((((((1", "law grow not not 1 or", "law grow 1 < 2 <", sum + "$", "law grow (10000"};
+        for (String half : halves) {
+            Check.due("'" + half + "' has a fault", Check.read(s, half), -1);
+            Check.due("64 stay", s.count(4), 64);
+            Check.due("a text behind it", Check.read(s, sum), 4);
+            s.go(1);
+            Check.due("fall behind it", s.law(1, 0), 31);
+            Check.due("grow behind it", s.law(0, 0), 7);
+        }
     }
 
     /** A line cut behind each of its bytes. */
