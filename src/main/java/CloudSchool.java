@@ -720,13 +720,15 @@ public final class CloudSchool {
 
         /** A product is looked at by division first: that of two values may not fit a long. */
         private static long combined(int sign, long a, long b) {
+            long large = a < 0 ? -a : a;
+            long other = b < 0 ? -b : b;
             switch (sign) {
                 case PLUS:
                     return a + b;
                 case MINUS:
                     return a - b;
                 case TIMES:
-                    return a != 0 && Math.abs(b) > MOST_VALUE / Math.abs(a) ? ERROR : a * b;
+                    return large != 0 && other > MOST_VALUE / large ? ERROR : a * b;
                 case BY:
                     return b == 0 ? ERROR : a / b;
                 case LESS:
@@ -885,7 +887,8 @@ public final class CloudSchool {
         private void takeNumber() {
             number = 0;
             while (next < length && bytes[next] >= '0' && bytes[next] <= '9') {
-                number = Math.min(1000000, number * 10 + bytes[next] - '0');
+                int more = number * 10 + bytes[next] - '0';
+                number = more > 1000000 ? 1000000 : more;
                 next++;
             }
         }
@@ -1339,7 +1342,11 @@ public final class CloudSchool {
         }
 
         int howFar(int child, int cloud) {
-            return Math.max(Math.abs(childX[child] - x[cloud]), Math.abs(childY[child] - y[cloud]));
+            int wide = childX[child] - x[cloud];
+            int high = childY[child] - y[cloud];
+            wide = wide < 0 ? -wide : wide;
+            high = high < 0 ? -high : high;
+            return wide > high ? wide : high;
         }
 
         boolean canSee(int child, int cloud) {
