@@ -504,6 +504,7 @@ public final class HourTermsTest {
         error("(4096*4096*4096)*(4096*4096*8)");
         error("(" + most + "+1)*0");
         for (int k = 25; k <= 39; k++) {
+            Check.due("2 to the " + k, worth(power(k)), 1L << k);
             error(power(k) + "*" + power(64 - k));
             error("(0-" + power(k) + ")*" + power(64 - k));
             error(power(k) + "*(0-" + power(64 - k) + ")");

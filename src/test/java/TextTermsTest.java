@@ -566,7 +566,9 @@ public final class TextTermsTest {
         }
         String[] halves = {"law grow 1+2*(3-(4 and $", "law grow ((((((((1", "law grow not not 1 or", "law grow 1 < 2 <", sum + "$", "law grow (10000"};
         for (String half : halves) {
-            Check.due("'" + half + "' has a fault", Check.read(s, half), -1);
+            for (int i = 0; i < 10; i++) {
+                Check.due("'" + half + "' has a fault", Check.read(s, half), -1);
+            }
             Check.due("64 stay", s.count(4), 64);
             Check.due("a text behind it", Check.read(s, sum), 4);
             s.go(1);
