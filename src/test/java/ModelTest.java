@@ -17,6 +17,9 @@ public final class ModelTest {
         "swaps 3", "swap 4 -1:3", "likely 3 f 0:4 -1:2", "plan 3 k f 0:4", "step 3 k f 0:4 -1:4", "rests 3 k k",
         "rest 3 k k -1:25", "note 6 0:9 0:5 0:3 0:1", "out 3 n", "known 3 n", "sizes 5 c", "chance 3 0:99999 1:9 f 0:9",
         "tried 6 0:5 0:0 0:12", "tried 2 2:2 c 0:12", "undo 6", "keep 2", "back 3", "count 9 -1:15"};
+    /** Calls that come far more often in some rows, so that what is limited is filled: what can be undone, notes, hours. */
+    private static final String[][] MOODS = {{}, {"push 60 k 1:4", "give 90 c -1:5", "stand 90 k 0:5 0:3", "blow 60 -1:4", "undo 40"},
+        {"note 90 1:9 0:5 0:3 0:1", "out 30 n", "known 30 n", "sizes 20 c"}, {"go 50 60:99", "chance 30 0:0 1:4 f 0:3"}};
     private static final int[] EDGES = {-2, -1, 0, 1, 4, 5, 6, 8, 9, 20, 24, 40, 41, 59, 60, 61, 99, 100, 999, 1000,
         Integer.MAX_VALUE, Integer.MIN_VALUE};
     private static final String[] WORDS = {"a", "b", "puff", "wisp", "meadow", "zz", "al", "bo", "c", "d", "e", "f"};
@@ -49,18 +52,23 @@ public final class ModelTest {
             left -= tell(random.nextInt(4) == 0 ? spoiled(text()) : text());
         }
         List<String> lots = new ArrayList<>();
-        for (String call : CALLS) {
-            for (int i = Integer.parseInt(call.split(" ")[1]); i > 0; i--) {
-                lots.add(call);
-            }
-        }
+        put(CALLS, lots);
+        put(MOODS[random.nextInt(MOODS.length)], lots);
         while (left > 40) {
             boolean bare = model.count(7) + model.count(8) == 0;
-            if (random.nextInt(bare ? 12 : 120) == 0) {
+            if (random.nextInt(bare ? 14 : 140) == 0) {
                 left -= tell(random.nextInt(4) == 0 ? spoiled(text()) : text());
             }
             draw(lots.get(random.nextInt(lots.size())).split(" "));
             left--;
+        }
+    }
+
+    private static void put(String[] calls, List<String> lots) {
+        for (String call : calls) {
+            for (int i = Integer.parseInt(call.split(" ")[1]); i > 0; i--) {
+                lots.add(call);
+            }
         }
     }
 
@@ -141,6 +149,44 @@ public final class ModelTest {
     }
 
     private String text() {
+        int kind = random.nextInt(10);
+        return kind == 0 ? crowded() : kind == 1 ? lawful() : ordinary();
+    }
+
+    /** As many of each kind as there may be, or a few more, of names that may come twice. */
+    private String crowded() {
+        StringBuilder all = new StringBuilder();
+        int more = random.nextInt(2);
+        for (int i = 0; i < 12 + more; i++) {
+            String name = random.nextInt(40) == 0 ? "b" : WORDS[i % WORDS.length];
+            all.append(i < 5 + more ? "field " + name + " " + from(0, 5) + " " + from(0, 3) + " 9;" : "");
+            all.append(i < 8 + random.nextInt(2) * more ? "cloud " + name + " " + from(0, 5) + " " + from(0, 3) + " " + from(1, 9) + " 0;" : "");
+            all.append(i < 6 + random.nextInt(2) * more ? "child " + name + " " + from(0, 5) + " " + from(0, 3) + " " + from(0, 9) + ";" : "");
+            all.append(random.nextInt(12) == 0 ? "" : "wind 0;");
+            all.append(random.nextInt(60) == 0 ? "rain 4;seed 0;most 2;" : "");
+        }
+        return all.substring(0, Math.min(700, all.length()));
+    }
+
+    /** Laws of some 64 knots in all, and of some eight brackets open at once. */
+    private String lawful() {
+        StringBuilder all = new StringBuilder("cloud a 2 2 5 0;child c 2 2 1;field f 2 2 9;");
+        int left = from(60, 68);
+        for (String rule : new String[] {"grow", "fall", "mark"}) {
+            int own = rule.equals("mark") ? left : from(1, left / 2);
+            left -= own;
+            int open = from(0, random.nextInt(3) == 0 ? 9 : 8);
+            boolean not = own % 2 == 0;
+            all.append("law ").append(rule).append(' ').append("(".repeat(open)).append(not ? "not size" : "size");
+            for (int i = not ? 2 : 1; i < own; i += 2) {
+                all.append(random.nextInt(9) == 0 ? " or " : "+").append(random.nextInt(9) == 0 ? "far" : "1");
+            }
+            all.append(")".repeat(open)).append(';');
+        }
+        return all.substring(0, Math.min(700, all.length()));
+    }
+
+    private String ordinary() {
         List<String> lines = new ArrayList<>();
         int kinds = from(2, 6);
         for (int cell = random.nextInt(24); cell < 24; cell += from(1, 9)) {
